@@ -10,12 +10,19 @@ final class Due {
         part = name;
     }
 
+    /** What follows tests these words of the document. */
+    static void sentence(String place, String words) {
+        part = place + ", \"" + words + "\"";
+    }
+
+    /** One case of these words. */
+    static void sentence(String place, String words, String which) {
+        part = place + ", \"" + words + "\" (" + which + ")";
+    }
+
     static void is(String call, long got, long want) {
         if (got != want) {
-            wrong++;
-            if (wrong <= 50) {
-                System.out.println(part + ": " + call + " answered " + got + ", due is " + want);
-            }
+            wrong(call + " answered " + got + ", due is " + want);
         }
     }
 
@@ -25,6 +32,13 @@ final class Due {
 
     static void no(String call, boolean got) {
         is(call, got ? 1 : 0, 0);
+    }
+
+    static void wrong(String what) {
+        wrong++;
+        if (wrong <= 50) {
+            System.out.println(part + ": " + what);
+        }
     }
 
     static int wrongSoFar() {

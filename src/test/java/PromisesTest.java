@@ -1,4 +1,4 @@
-/** Each promise of the document by itself: ordinary inputs, the edges that it names, and wrong inputs. */
+/** The promises with ordinary inputs, several of them at work together. */
 public final class PromisesTest {
     private static final int LOW = Integer.MIN_VALUE;
     private static final int HIGH = Integer.MAX_VALUE;
@@ -8,49 +8,32 @@ public final class PromisesTest {
     }
 
     public static void main(String[] args) {
-        startState();
-        clampedLimit();
-        clampedCap();
-        issueArguments(true);
-        issueArguments(false);
-        issueFull(true);
-        issueFull(false);
-        issueSlot();
-        ticketsShared();
         writesTakeDataInTicketOrder();
-        writeDataEdges();
         writeDataWrapsAround();
-        latencyArguments();
         latencyScript();
         latencyOfAcceptedStays();
         latencyOfWrites();
         latencyOfErrorSubordinate();
-        readyArguments();
         readyHoldsBack();
-        stepArguments();
         responseOrderById();
         beatsInterleave();
         sameIdInOrder();
         readSeesSameCycleWrite();
         readSamplesBeatByBeat();
         oneDataValuePerCycle();
-        priorityAlternates();
         priorityPerChannelAndSubordinate();
         loneWinnerMovesPriority();
         addressChannelOrder();
         subordinateOrderUnderLimit();
-        headBlocksQueue();
         severalHeadsInOneCycle();
         sameIdElsewhereBlocks();
         doneFreesInSameCycle();
-        cycleCounts();
         statusStates();
         beatsOfBothKinds();
         readDataEdges();
         doneNumbers();
         loads();
         pendingCounts();
-        memoryEdges();
         Due.end();
     }
 
@@ -58,172 +41,10 @@ public final class PromisesTest {
         return new IdInterconnect(8, 4);
     }
 
-    // Promise 1
-
-    private static void startState() {
-        Due.part("promise 1, start state");
-        IdInterconnect x = new IdInterconnect(3, 2);
-        Due.is("cycle()", x.cycle(), 0);
-        for (int t = -2; t <= 40; t++) {
-            Due.is("status(" + t + ")", x.status(t), IdInterconnect.ST_NONE);
-        }
-        for (int a = 0; a < 24; a++) {
-            Due.is("memory(" + a + ")", x.memory(a), 0);
-        }
-        for (int m = 0; m < 2; m++) {
-            Due.is("outstanding(" + m + ")", x.outstanding(m), 0);
-            Due.is("pendingData(" + m + ")", x.pendingData(m), 0);
-        }
-        for (int s = 0; s < 4; s++) {
-            Due.is("subLoad(" + s + ")", x.subLoad(s), 0);
-        }
-        // An idle cycle finds nothing to do.
-        Due.yes("step(64)", x.step(64));
-        Due.is("cycle()", x.cycle(), 64);
-        Due.is("status(0)", x.status(0), IdInterconnect.ST_NONE);
-        Due.is("issueRead", x.issueRead(0, 0, 0, 1), 0);
-    }
-
-    private static int mostActiveOfManager(int limit) {
-        IdInterconnect x = new IdInterconnect(limit, 4);
-        x.setReady(0, false, false);
-        for (int round = 0; round < 2; round++) {
-            for (int id = 0; id < 4; id++) {
-                x.issueRead(0, id, 8 * id, 1);
-                x.issueWrite(0, id, 8 * id, 1);
-            }
-            x.step(5);
-        }
-        return x.outstanding(0);
-    }
-
-    private static void clampedLimit() {
-        Due.part("promise 1, limit");
-        int[] given = {LOW, -1, 0, 1, 2, 7, 8, 9, 100, HIGH};
-        int[] due = {1, 1, 1, 1, 2, 7, 8, 8, 8, 8};
-        for (int i = 0; i < given.length; i++) {
-            Due.is("most ACTIVE under limit " + given[i], mostActiveOfManager(given[i]), due[i]);
-        }
-    }
-
-    private static int mostActiveAt(int s, int cap) {
-        IdInterconnect x = new IdInterconnect(8, cap);
-        x.setReady(0, false, false);
-        x.setReady(1, false, false);
-        for (int i = 0; i < 3; i++) {
-            x.issueRead(0, 0, 8 * s, 1);
-            x.issueWrite(1, 0, 8 * s, 1);
-        }
-        x.step(9);
-        return x.subLoad(s);
-    }
-
-    private static void clampedCap() {
-        Due.part("promise 1, cap");
-        int[] given = {LOW, -1, 0, 1, 2, 3, 4, 5, 100, HIGH};
-        int[] due = {1, 1, 1, 1, 2, 3, 4, 4, 4, 4};
-        for (int i = 0; i < given.length; i++) {
-            for (int s = 0; s < 4; s++) {
-                Due.is("most ACTIVE at " + s + " under cap " + given[i], mostActiveAt(s, given[i]), due[i]);
-            }
-        }
-    }
-
-    // Promises 2 and 3
+    // Promise 3
 
     private static int issue(IdInterconnect x, boolean write, int m, int id, int addr, int len) {
         return write ? x.issueWrite(m, id, addr, len) : x.issueRead(m, id, addr, len);
-    }
-
-    private static void issueArguments(boolean write) {
-        Due.part(write ? "promise 3, arguments" : "promise 2, arguments");
-        IdInterconnect x = fresh();
-        for (int m : NOT_MANAGERS) {
-            Due.is("m " + m, issue(x, write, m, 0, 0, 1), IdInterconnect.ERR_ARG);
-        }
-        for (int id : new int[] {-1, 4, LOW, HIGH}) {
-            Due.is("id " + id, issue(x, write, 0, id, 0, 1), IdInterconnect.ERR_ARG);
-        }
-        for (int addr : new int[] {-1, -8, 32, LOW, HIGH}) {
-            Due.is("addr " + addr, issue(x, write, 0, 0, addr, 1), IdInterconnect.ERR_ARG);
-        }
-        for (int len : new int[] {0, -1, 5, LOW, HIGH}) {
-            Due.is("len " + len, issue(x, write, 0, 0, 0, len), IdInterconnect.ERR_ARG);
-        }
-        Due.is("status(0) after refusals", x.status(0), IdInterconnect.ST_NONE);
-        for (int addr = 0; addr < 32; addr++) {
-            for (int len = 1; len <= 4; len++) {
-                int due = addr % 8 + len > 8 ? IdInterconnect.ERR_ARG : 0;
-                Due.is("addr " + addr + " len " + len, issue(fresh(), write, 1, 3, addr, len), due);
-            }
-        }
-    }
-
-    private static void issueFull(boolean write) {
-        Due.part(write ? "promise 3, full" : "promise 2, full");
-        IdInterconnect x = fresh();
-        for (int i = 0; i < 4; i++) {
-            Due.is("issue " + i, issue(x, write, 1, i, 8 * i, 1), i);
-        }
-        Due.is("fifth", issue(x, write, 1, 0, 0, 1), IdInterconnect.ERR_FULL);
-        Due.is("fifth, wrong id", issue(x, write, 1, 4, 0, 1), IdInterconnect.ERR_ARG);
-        Due.is("status(4)", x.status(4), IdInterconnect.ST_NONE);
-        Due.is("the other kind", issue(x, !write, 1, 0, 0, 1), 4);
-        Due.is("the other manager", issue(x, write, 0, 0, 0, 1), 5);
-        Due.is("no cycle has passed", x.cycle(), 0);
-        Due.is("outstanding(1)", x.outstanding(1), 0);
-        // Manager 0 wins subordinate 0 in the first cycle, so manager 1's head holds its whole queue back.
-        x.step(1);
-        Due.is("still full", issue(x, write, 1, 0, 0, 1), IdInterconnect.ERR_FULL);
-        x.step(1);
-        Due.is("there is room after two cycles", issue(x, write, 1, 0, 0, 1), 6);
-    }
-
-    private static void issueSlot() {
-        Due.part("promises 2 and 3, slots");
-        IdInterconnect x = fresh();
-        x.setReady(0, true, false);
-        x.issueRead(0, 0, 0, 1);
-        x.step(2);
-        for (int i = 0; i < 4; i++) {
-            Due.is("blocked read", x.issueRead(0, 0, 8, 1), 1 + i);
-        }
-        for (int t = 5; t < 32; t++) {
-            Due.is("quick read", x.issueRead(1, 0, 16, 1), t);
-            x.step(2);
-            Due.is("status(" + t + ")", x.status(t), IdInterconnect.ST_OKAY);
-        }
-        Due.is("read without a slot", x.issueRead(1, 0, 16, 1), IdInterconnect.ERR_SLOT);
-        Due.is("write without a slot", x.issueWrite(1, 0, 16, 1), IdInterconnect.ERR_SLOT);
-        Due.is("full goes before slot", x.issueRead(0, 0, 8, 1), IdInterconnect.ERR_FULL);
-        Due.is("arguments go before full", x.issueRead(0, 0, 8, 5), IdInterconnect.ERR_ARG);
-        Due.is("arguments go before slot", x.issueWrite(0, 0, 8, 5), IdInterconnect.ERR_ARG);
-        Due.is("status(0)", x.status(0), IdInterconnect.ST_ACTIVE);
-        Due.is("status(32)", x.status(32), IdInterconnect.ST_NONE);
-        x.setReady(0, true, true);
-        x.step(1);
-        Due.is("status(0)", x.status(0), IdInterconnect.ST_OKAY);
-        Due.is("read with a slot", x.issueRead(1, 2, 17, 2), 32);
-        Due.is("status(0)", x.status(0), IdInterconnect.ST_NONE);
-        Due.is("beats(0)", x.beats(0), -1);
-        Due.is("doneOrder(0)", x.doneOrder(0), -1);
-        Due.is("doneCycle(0)", x.doneCycle(0), -1);
-        Due.is("status(1)", x.status(1), IdInterconnect.ST_ACTIVE);
-        Due.is("status(32)", x.status(32), IdInterconnect.ST_QUEUED);
-        Due.is("beats(32)", x.beats(32), 0);
-        Due.is("doneOrder(32)", x.doneOrder(32), -1);
-        Due.is("doneCycle(32)", x.doneCycle(32), -1);
-        Due.is("ticket 1 is not DONE", x.issueWrite(1, 0, 16, 1), IdInterconnect.ERR_SLOT);
-    }
-
-    private static void ticketsShared() {
-        Due.part("promises 2 and 3, one counter");
-        IdInterconnect x = fresh();
-        Due.is("issueWrite", x.issueWrite(1, 0, 0, 1), 0);
-        Due.is("issueRead", x.issueRead(0, 0, 0, 1), 1);
-        Due.is("issueRead", x.issueRead(1, 4, 0, 1), IdInterconnect.ERR_ARG);
-        Due.is("issueRead", x.issueRead(1, 0, 0, 1), 2);
-        Due.is("issueWrite", x.issueWrite(0, 0, 0, 1), 3);
     }
 
     private static void writesTakeDataInTicketOrder() {
@@ -251,23 +72,6 @@ public final class PromisesTest {
     }
 
     // Promise 4
-
-    private static void writeDataEdges() {
-        Due.part("promise 4");
-        IdInterconnect x = fresh();
-        for (int m : NOT_MANAGERS) {
-            Due.no("writeData(" + m + ", 1)", x.writeData(m, 1));
-        }
-        for (int i = 0; i < 8; i++) {
-            Due.yes("writeData(1, " + i + ")", x.writeData(1, i));
-            Due.is("pendingData(1)", x.pendingData(1), i + 1);
-        }
-        Due.no("ninth", x.writeData(1, 8));
-        Due.is("pendingData(1)", x.pendingData(1), 8);
-        Due.is("pendingData(0)", x.pendingData(0), 0);
-        Due.yes("the other manager", x.writeData(0, 9));
-        Due.is("status(0)", x.status(0), IdInterconnect.ST_NONE);
-    }
 
     private static void writeDataWrapsAround() {
         Due.part("promise 4, first in first out");
@@ -298,32 +102,6 @@ public final class PromisesTest {
     }
 
     // Promise 5
-
-    private static void latencyArguments() {
-        Due.part("promise 5, arguments");
-        IdInterconnect x = fresh();
-        for (int s : new int[] {-1, 3, 4, LOW, HIGH}) {
-            Due.no("s " + s, x.setLatency(s, 0, 9));
-        }
-        for (int idx : new int[] {-1, 4, LOW, HIGH}) {
-            Due.no("idx " + idx, x.setLatency(1, idx, 9));
-        }
-        for (int lat : new int[] {-1, 0, 16, LOW, HIGH}) {
-            Due.no("lat " + lat, x.setLatency(0, 0, lat));
-        }
-        // The refused calls have left every entry at 1.
-        for (int s = 0; s < 3; s++) {
-            for (int i = 0; i < 4; i++) {
-                Due.is("delay at " + s, delayOfRead(x, 8 * s), 1);
-            }
-        }
-        for (int s = 0; s < 3; s++) {
-            for (int idx = 0; idx < 4; idx++) {
-                Due.yes("lat 1", x.setLatency(s, idx, 1));
-                Due.yes("lat 15", x.setLatency(s, idx, 15));
-            }
-        }
-    }
 
     /** The cycles from acceptance to the first beat of a read on an idle object. */
     private static int delayOfRead(IdInterconnect x, int addr) {
@@ -405,18 +183,6 @@ public final class PromisesTest {
 
     // Promise 6
 
-    private static void readyArguments() {
-        Due.part("promise 6, arguments");
-        IdInterconnect x = fresh();
-        for (int m : NOT_MANAGERS) {
-            Due.no("setReady(" + m + ")", x.setReady(m, false, false));
-        }
-        Due.is("manager 0 still takes beats", delayOfRead(x, 0), 1);
-        Due.yes("setReady(0)", x.setReady(0, true, true));
-        Due.yes("setReady(1)", x.setReady(1, false, false));
-        Due.is("manager 0 still takes beats", delayOfRead(x, 0), 1);
-    }
-
     private static void readyHoldsBack() {
         Due.part("promise 6");
         IdInterconnect x = fresh();
@@ -445,20 +211,6 @@ public final class PromisesTest {
     }
 
     // Promise 7
-
-    private static void stepArguments() {
-        Due.part("promise 7, arguments");
-        IdInterconnect x = fresh();
-        x.issueRead(0, 0, 0, 1);
-        for (int n : new int[] {0, -1, 65, LOW, HIGH}) {
-            Due.no("step(" + n + ")", x.step(n));
-        }
-        Due.is("cycle()", x.cycle(), 0);
-        Due.is("status(0)", x.status(0), IdInterconnect.ST_QUEUED);
-        Due.yes("step(1)", x.step(1));
-        Due.yes("step(64)", x.step(64));
-        Due.is("cycle()", x.cycle(), 65);
-    }
 
     private static void responseOrderById() {
         Due.part("promise 7, write responses");
@@ -610,25 +362,6 @@ public final class PromisesTest {
         Due.is("pendingData(0)", x.pendingData(0), 1);
     }
 
-    private static void priorityAlternates() {
-        Due.part("promise 7, priority");
-        for (int s = 0; s < 4; s++) {
-            for (int kind = 0; kind < 2; kind++) {
-                IdInterconnect x = fresh();
-                for (int i = 0; i < 2; i++) {
-                    issue(x, kind == 0, 1, 0, 8 * s, 1);
-                    issue(x, kind == 0, 0, 0, 8 * s, 1);
-                }
-                int[] due = {1, 0, 3, 2};
-                for (int i = 0; i < 4; i++) {
-                    Due.is("before", x.status(due[i]), IdInterconnect.ST_QUEUED);
-                    x.step(1);
-                    Due.is("accepted in cycle " + (i + 1), x.status(due[i]), IdInterconnect.ST_ACTIVE);
-                }
-            }
-        }
-    }
-
     private static void priorityPerChannelAndSubordinate() {
         Due.part("promise 7, priority of each port");
         IdInterconnect x = fresh();
@@ -707,20 +440,6 @@ public final class PromisesTest {
         }
     }
 
-    private static void headBlocksQueue() {
-        Due.part("promise 7, only the head");
-        IdInterconnect x = new IdInterconnect(8, 1);
-        x.setReady(1, false, false);
-        x.issueRead(1, 0, 0, 1);
-        x.step(1);
-        x.issueRead(0, 0, 0, 1);
-        x.issueRead(0, 1, 8, 1);
-        x.step(5);
-        Due.is("head", x.status(1), IdInterconnect.ST_QUEUED);
-        Due.is("behind the head", x.status(2), IdInterconnect.ST_QUEUED);
-        Due.is("subLoad(1)", x.subLoad(1), 0);
-    }
-
     private static void severalHeadsInOneCycle() {
         Due.part("promise 7, several heads in one cycle");
         IdInterconnect x = fresh();
@@ -787,24 +506,6 @@ public final class PromisesTest {
     }
 
     // Promises 8 to 15
-
-    private static void cycleCounts() {
-        Due.part("promise 8");
-        IdInterconnect x = fresh();
-        int due = 0;
-        for (int n = -2; n <= 66; n++) {
-            boolean ran = x.step(n);
-            due += n >= 1 && n <= 64 ? n : 0;
-            Due.is("step(" + n + ")", ran ? 1 : 0, n >= 1 && n <= 64 ? 1 : 0);
-            Due.is("cycle()", x.cycle(), due);
-            Due.is("cycle() again", x.cycle(), due);
-        }
-        x.issueRead(0, 0, 0, 1);
-        x.writeData(0, 0);
-        x.setReady(0, true, true);
-        x.setLatency(0, 0, 2);
-        Due.is("cycle() after other calls", x.cycle(), due);
-    }
 
     private static void statusStates() {
         Due.part("promise 9");
@@ -972,26 +673,5 @@ public final class PromisesTest {
         x.step(9);
         Due.is("pendingData(0)", x.pendingData(0), 0);
         Due.is("pendingData(1)", x.pendingData(1), 1);
-    }
-
-    private static void memoryEdges() {
-        Due.part("promise 15");
-        IdInterconnect x = fresh();
-        for (int a = 0; a < 32; a += 4) {
-            for (int i = 0; i < 4; i++) {
-                x.writeData(0, 1000 + a + i);
-            }
-            x.issueWrite(0, 0, a, 4);
-            x.step(5);
-            Due.is("memory(" + a + ") before the response", x.memory(a), 0);
-            x.step(1);
-            Due.is("status", x.status(a / 4) >= IdInterconnect.ST_OKAY ? 1 : 0, 1);
-        }
-        for (int a = 0; a < 24; a++) {
-            Due.is("memory(" + a + ")", x.memory(a), 1000 + a);
-        }
-        for (int a : new int[] {-1, -24, 24, 25, 31, 32, LOW, HIGH}) {
-            Due.is("memory(" + a + ")", x.memory(a), 0);
-        }
     }
 }

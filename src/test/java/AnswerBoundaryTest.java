@@ -199,9 +199,7 @@ public final class AnswerBoundaryTest {
         for (boolean write : KINDS) {
             for (int before = 28; before <= 36; before++) {
                 Watched x = new Watched();
-                while (x.tickets() < before) {
-                    x.quick(false, 1, 0, 16);
-                }
+                x.giveTickets(before, 1, 0, 16);
                 x.setLatency(0, 0, 9);
                 for (int i = 0; i < 4; i++) {
                     x.issue(write, 0, 2, i, 1);
@@ -342,12 +340,10 @@ public final class AnswerBoundaryTest {
         Due.sentence("promise 7", "Each manager gets at most one beat per cycle");
         Watched x = Scenes.full();
         x.release();
-        int left = 16;
-        while (left > 0) {
+        for (int i = 0; i < 8; i++) {
             int before = beatsGiven(x, 0) + beatsGiven(x, 1);
             x.step(1);
             Due.is("beats in one cycle", beatsGiven(x, 0) + beatsGiven(x, 1) - before, 2);
-            left -= 2;
         }
     }
 
@@ -542,7 +538,7 @@ public final class AnswerBoundaryTest {
                     x.writeData(m, 1);
                     x.writeData(m, 2);
                     x.step(1);
-                    while (!x.isDone(0) && x.bus.cycle() < 20) {
+                    for (int i = 0; i < 20 && !x.isDone(0); i++) {
                         Due.is("outstanding before", x.bus.outstanding(m), 1);
                         Due.is("subLoad before", x.bus.subLoad(s), 1);
                         x.step(1);
@@ -561,9 +557,7 @@ public final class AnswerBoundaryTest {
         Due.sentence("promise 7", "a later write of m never receives data ahead of w");
         for (int before = 0; before <= 33; before++) {
             Watched x = new Watched();
-            while (x.tickets() < before) {
-                x.quick(false, 1, 0, 16);
-            }
+            x.giveTickets(before, 1, 0, 16);
             x.issueWrite(0, 1, 0, 3);
             x.issueWrite(0, 0, 8, 2);
             x.step(3);

@@ -338,9 +338,7 @@ public final class GetterBoundaryTest {
     private static void doneInUsedSlot() {
         Due.sentence("promise 12", "or its transaction is not DONE", "also where an older ticket was");
         Watched x = new Watched();
-        while (x.tickets() < 32) {
-            x.quick(false, 0, 0, 0);
-        }
+        x.giveTickets(32, 0, 0, 0);
         for (int t = 32; t < 70; t++) {
             x.issueRead(0, 0, 0, 1);
             for (int c = 0; c < 2; c++) {

@@ -235,9 +235,7 @@ public final class IssueBoundaryTest {
             Watched x = new Watched();
             x.setReady(0, true, false);
             x.issueRead(0, 0, 0, 1);
-            while (x.tickets() < 31) {
-                x.quick(false, 1, 0, 8);
-            }
+            x.giveTickets(31, 1, 0, 8);
             x.isActive(0);
             Due.is("the 32nd ticket", x.issue(write, m, 3, 0, 1), 31);
             Due.is("no 33rd while ticket 0 is ACTIVE", x.issue(write, m, 3, 0, 1), IdInterconnect.ERR_SLOT);
@@ -259,9 +257,7 @@ public final class IssueBoundaryTest {
         x.issueRead(0, 0, 0, 4);
         x.step(4);
         x.setReady(0, true, false);
-        while (x.tickets() < 32) {
-            x.quick(false, 1, 0, 8);
-        }
+        x.giveTickets(32, 1, 0, 8);
         Due.is("all beats but one", x.bus.beats(0), 3);
         Due.is("a beat is missing", x.issue(write, 1, 0, 0, 1), IdInterconnect.ERR_SLOT);
         x.setReady(0, true, true);

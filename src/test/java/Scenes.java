@@ -72,9 +72,7 @@ final class Scenes {
         x.issueRead(0, 0, 0, 2);
         x.step(2);
         x.setReady(0, false, false);
-        while (x.tickets() < 9) {
-            x.quick(false, 1, 2, 16);
-        }
+        x.giveTickets(9, 1, 2, 16);
         x.hold();
         for (int s = 0; s < 4; s++) {
             for (int m = 0; m < 2; m++) {
@@ -137,9 +135,7 @@ final class Scenes {
             case IdInterconnect.ST_OKAY -> x.quick(write, 0, 0, 0);
             default -> x.quick(write, 0, 0, 24);
         }
-        while (x.tickets() < 32) {
-            x.quick(false, 1, 1, 8);
-        }
+        x.giveTickets(32, 1, 1, 8);
         return x;
     }
 

@@ -20,6 +20,7 @@ public final class SettingsBoundaryTest {
         latencyMost();
         latencyOneEntryEach();
         latencyWrapsAround();
+        latencyOfEachSubordinate();
         latencyOfBothKinds();
         latencyOfAcceptedRead();
         latencyOfAcceptedWrite();
@@ -223,6 +224,22 @@ public final class SettingsBoundaryTest {
             }
             for (int k = 0; k < 13; k++) {
                 Due.is("delay " + k + " at " + s, x.delayOfRead(k % 2, 8 * s), 4 * s + k % 4 + 2);
+            }
+        }
+    }
+
+    private static void latencyOfEachSubordinate() {
+        Due.sentence("terms", "Each subordinate s in 0..2 has a latency script of 4 entries (all 1 at start) and a count k_s");
+        for (int s = 0; s <= 2; s++) {
+            for (int other = 0; other <= 3; other++) {
+                for (int taken = 1; taken <= 4 && other != s; taken++) {
+                    Watched x = new Watched();
+                    x.setLatency(s, 0, 9);
+                    for (int i = 0; i < taken; i++) {
+                        x.delayOfRead(0, 8 * other);
+                    }
+                    Due.is("first delay at " + s + " after " + taken + " at " + other, x.delayOfRead(0, 8 * s), 9);
+                }
             }
         }
     }

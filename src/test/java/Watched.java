@@ -95,6 +95,14 @@ final class Watched {
         return t;
     }
 
+    /** Quick reads until that many tickets are given; it ends on a bus that refuses them, too. */
+    void giveTickets(int count, int m, int id, int addr) {
+        for (int i = 0; i < 100 && tickets() < count; i++) {
+            quick(false, m, id, addr);
+        }
+        Due.is("tickets given", tickets(), count);
+    }
+
     /** The cycles from the acceptance of a read to its beat. */
     int delayOfRead(int m, int addr) {
         int t = issueRead(m, 0, addr, 1);

@@ -305,7 +305,8 @@ public final class IdInterconnect {
     }
 
     private void storeValues(int slot) {
-        for (int i = 0; i < slotLen[slot]; i++) {
+        int len = slotLen[slot];
+        for (int i = 0; i < len; i++) {
             words[slotAddress[slot] + i] = slotValues[slot * MAX_LEN + i];
         }
     }

@@ -341,9 +341,11 @@ public final class AnswerBoundaryTest {
         Watched x = Scenes.full();
         x.release();
         for (int i = 0; i < 8; i++) {
-            int before = beatsGiven(x, 0) + beatsGiven(x, 1);
+            int[] before = {beatsGiven(x, 0), beatsGiven(x, 1)};
             x.step(1);
-            Due.is("beats in one cycle", beatsGiven(x, 0) + beatsGiven(x, 1) - before, 2);
+            for (int m = 0; m < 2; m++) {
+                Due.is("beats of manager " + m + " in one cycle", beatsGiven(x, m) - before[m], 1);
+            }
         }
     }
 

@@ -8,11 +8,15 @@ import java.util.TreeSet;
 import java.util.regex.Matcher;
 import java.util.regex.Pattern;
 
-/** What of LANGUAGE.md can be read off the source of the class: rules 3, 4, 6, 8 and 10. */
+/**
+ * What of LANGUAGE.md can be read off the source of the class: rules 3, 4, 6, 8 and 10, and rule 7's divisors. That no
+ * other class is named (rule 3) leaves no way to a clock, a random source or a file either (rule 11).
+ */
 public final class LanguageTest {
     private static final Path SOURCE = Path.of("src/main/java/IdInterconnect.java");
     private static final Pattern HEADER = Pattern.compile("^    (?:public|private) (?:static )?(?:\\w+ )?(\\w+)\\(.*\\) \\{$");
     private static final Pattern CALL = Pattern.compile("\\b([a-z]\\w*)\\s*\\(");
+    private static final Pattern LOOP = Pattern.compile("\\bfor \\(int (\\w+) = 0; \\1 < (\\w+); \\1\\+\\+\\) \\{");
     private static final Set<String> NOT_CALLS = Set.of("if", "for", "while", "switch", "return");
 
     private LanguageTest() {
@@ -22,6 +26,8 @@ public final class LanguageTest {
         String code = withoutComments(Files.readString(SOURCE));
         words(code);
         arrays(code);
+        divisors(code);
+        loops(code);
         Map<String, String> bodies = bodies(code);
         Due.part("rule 10");
         Due.yes("the methods were found", bodies.size() > 17);
@@ -66,6 +72,36 @@ public final class LanguageTest {
         return (int) Pattern.compile(pattern).matcher(code).results().count();
     }
 
+    private static void divisors(String code) {
+        Due.part("rule 7");
+        int byConstant = count(code, "[/%] [A-Z][A-Z_]*\\b");
+        Due.yes("there are divisions", byConstant > 0);
+        Due.is("divisions by anything but a constant", count(code, "[/%]") - byConstant, 0);
+    }
+
+    /** Narrower than the rule, which lets other loops pass too: from these the end can be seen by a test. */
+    private static void loops(String code) {
+        Due.part("rule 8");
+        Due.no("while or do", has(code, "\\b(?:while|do)\\b"));
+        int counted = 0;
+        Matcher loop = LOOP.matcher(code);
+        while (loop.find()) {
+            counted++;
+            String body = between(code, loop.end(), '{', '}');
+            for (int i = 1; i <= 2; i++) {
+                Due.no(loop.group() + " changes " + loop.group(i), changes(body, loop.group(i)));
+            }
+        }
+        Due.yes("there are loops", counted > 0);
+        Due.is("loops that are not a counter against a bound", count(code, "\\bfor\\b") - counted, 0);
+    }
+
+    private static boolean changes(String body, String name) {
+        String word = "\\b" + name + "\\b";
+        return has(body, word + "\\s*(?:[-+*/%&|^]|<<|>>>?)?=(?!=)") || has(body, word + "\\s*(?:\\+\\+|--)")
+            || has(body, "(?:\\+\\+|--)\\s*" + word);
+    }
+
     private static Map<String, String> bodies(String code) {
         Map<String, String> bodies = new LinkedHashMap<>();
         String name = null;
@@ -95,18 +131,19 @@ public final class LanguageTest {
         Matcher call = CALL.matcher(code);
         while (call.find()) {
             if (!NOT_CALLS.contains(call.group(1))) {
-                String inside = argumentsAt(code, call.end());
+                String inside = between(code, call.end(), '(', ')');
                 Due.no("a call inside " + call.group(1) + "(" + inside + ")", CALL.matcher(inside).find());
             }
         }
     }
 
-    private static String argumentsAt(String code, int start) {
+    /** What stands from start to the bracket that closes the one before start. */
+    private static String between(String code, int start, char opening, char closing) {
         int open = 1;
         int end = start;
         while (open > 0) {
             char c = code.charAt(end);
-            open += c == '(' ? 1 : c == ')' ? -1 : 0;
+            open += c == opening ? 1 : c == closing ? -1 : 0;
             end++;
         }
         return code.substring(start, end - 1);
